@@ -311,6 +311,9 @@ public final class PromiseTests {
         due("clean again", x.rinse(), 0);
         due("how often", x.count(9), 1);
         due("each is a change", x.count(11), 5);
+        x.dip(0, 1);
+        due("1", x.rinse(), 1);
+        due("how often", x.count(9), 2);
     }
 
     private static void want() {
@@ -387,6 +390,10 @@ public final class PromiseTests {
         due("brush is full", x.run(), 4);
         Checks.type(x, "r;r;r;r;r;r;r;r;r;r;r;r;r;r;r;r;r;r;r;r;r;r;r;r;r;r;r;r;r;r");
         due("many works", x.run(), 30);
+        x.want(4, 0, 0, 0);
+        x.empty(1);
+        Checks.type(x, "1+3t;d1:3;p4");
+        due("distance 0 is done, too", x.run(), 3);
     }
 
     private static void potNumbers() {
@@ -497,6 +504,7 @@ public final class PromiseTests {
         due("lowest of two", x.nearest(2, 0), 5);
         due("its distance", x.nearest(2, 1), 20);
         fillPot(x, 7, 0, 7, 1, 0);
+        fillPot(x, 0, 0, 0, 1, 0);
         due("nearer", x.nearest(2, 0), 7);
         due("its distance", x.nearest(2, 1), 0);
     }
@@ -556,12 +564,17 @@ public final class PromiseTests {
         mixture(x, 0, 2, 4, 1, 9, 0);
         x.want(0, 53, 46, 0);
         mixture(x, 0, 2, 4, 7, 6, 0);
+        x.want(0, 9, 91, 0);
+        mixture(x, 0, 2, 4, 1, 9, 2);
         fillPot(x, 1, 0, 0, 7, 7);
         fillPot(x, 6, 2, 2, 0, 0);
         x.want(0, 50, 50, 0);
         mixture(x, 0, 2, 4, 1, 1, 0);
         x.want(0, 25, 25, 25);
         mixture(x, 0, 1, 6, 1, 1, 0);
+        fillPot(x, 0, 0, 5, 0, 0);
+        x.want(0, 0, 50, 25);
+        mixture(x, 0, 0, 1, 1, 1, 0);
     }
 
     private static ThinnedPots ringed(int... pots) {
