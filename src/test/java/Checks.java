@@ -18,6 +18,20 @@ final class Checks {
         due(what, holds ? 1 : 0, 1);
     }
 
+    void same(String what, String got, String want) {
+        checked++;
+        if (!got.equals(want)) {
+            wrong++;
+            if (wrong <= MOST_SHOWN) {
+                System.out.println(what + " answered " + got + ", due is " + want);
+            }
+        }
+    }
+
+    int checked() {
+        return checked;
+    }
+
     void end() {
         System.out.println(checked + " checks, " + wrong + " wrong");
         if (wrong != 0 || checked == 0) {

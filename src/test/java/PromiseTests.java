@@ -25,21 +25,6 @@ public final class PromiseTests {
         due(which + " all", x.brush(4), r + y + b + t);
     }
 
-    private static ThinnedPots filled(int pot, int r, int y, int b, int t) {
-        ThinnedPots x = new ThinnedPots();
-        fillPot(x, pot, r, y, b, t);
-        return x;
-    }
-
-    private static void fillPot(ThinnedPots x, int pot, int r, int y, int b, int t) {
-        int[] drops = {r, y, b, t};
-        for (int kind = 0; kind < 4; kind++) {
-            if (drops[kind] > 0) {
-                x.fill(pot, kind, drops[kind]);
-            }
-        }
-    }
-
     public static void main(String[] args) {
         constants();
         newObject();
@@ -159,7 +144,7 @@ public final class PromiseTests {
 
     private static void thin() {
         promise = "4 thin";
-        ThinnedPots x = filled(2, 1, 0, 0, 0);
+        ThinnedPots x = Paints.filled(2, 1, 0, 0, 0);
         due("3", x.thin(2), 3);
         due("9", x.thin(2), 9);
         due("27", x.thin(2), 27);
@@ -168,9 +153,9 @@ public final class PromiseTests {
         drops("thinned", x, 2, 1, 0, 0, 80);
         due("how often", x.pot(2, 8), 4);
         due("put in", x.count(2), 81);
-        fillPot(x, 3, 0, 28, 0, 0);
+        Paints.fillPot(x, 3, 0, 28, 0, 0);
         due("84", x.thin(3), TOO_MANY);
-        fillPot(x, 4, 0, 20, 0, 7);
+        Paints.fillPot(x, 4, 0, 20, 0, 7);
         due("27 to 81", x.thin(4), 81);
         drops("thinner before", x, 4, 0, 20, 0, 61);
         due("empty", x.thin(0), NOT_POSSIBLE);
@@ -182,7 +167,7 @@ public final class PromiseTests {
 
     private static void pour() {
         promise = "5 pour";
-        ThinnedPots x = filled(0, 10, 20, 30, 0);
+        ThinnedPots x = Paints.filled(0, 10, 20, 30, 0);
         due("6", x.pour(0, 1, 6), 6);
         drops("from", x, 0, 9, 18, 27, 0);
         drops("to", x, 1, 1, 2, 3, 0);
@@ -193,7 +178,7 @@ public final class PromiseTests {
         due("from an empty one", x.pour(0, 1, 1), NOT_POSSIBLE);
         due("one more than there is", x.pour(1, 0, 61), NOT_POSSIBLE);
         due("most", x.pour(1, 0, 81), NOT_POSSIBLE);
-        fillPot(x, 2, 0, 0, 0, 22);
+        Paints.fillPot(x, 2, 0, 0, 0, 22);
         due("one too many", x.pour(2, 1, 22), TOO_MANY);
         due("full", x.pour(2, 1, 21), 81);
         due("not so many ahead of too many", x.pour(2, 1, 2), NOT_POSSIBLE);
@@ -210,22 +195,22 @@ public final class PromiseTests {
 
     private static void takingDrops() {
         promise = "5 pour, taking drops";
-        ThinnedPots x = filled(0, 1, 1, 1, 1);
+        ThinnedPots x = Paints.filled(0, 1, 1, 1, 1);
         x.pour(0, 1, 3);
         drops("lowest first", x, 1, 1, 1, 1, 0);
-        x = filled(0, 0, 2, 2, 1);
+        x = Paints.filled(0, 0, 2, 2, 1);
         x.pour(0, 1, 2);
         // 4/5, 4/5 and 2/5: none whole, so one of y and one of b.
         drops("most left over", x, 1, 0, 1, 1, 0);
-        x = filled(0, 1, 0, 3, 3);
+        x = Paints.filled(0, 1, 0, 3, 3);
         x.pour(0, 1, 2);
         // 2/7, 6/7 and 6/7.
         drops("most, not lowest", x, 1, 0, 0, 1, 1);
-        x = filled(0, 1, 2, 5, 3);
+        x = Paints.filled(0, 1, 2, 5, 3);
         x.pour(0, 1, 7);
         // 7/11, 1 3/11, 3 2/11 and 1 10/11: two are missing, of t and r.
         drops("two missing", x, 1, 1, 1, 3, 2);
-        x = filled(0, 80, 1, 0, 0);
+        x = Paints.filled(0, 80, 1, 0, 0);
         x.pour(0, 1, 1);
         drops("a drop of the many", x, 1, 1, 0, 0, 0);
         x.pour(0, 1, 40);
@@ -235,7 +220,7 @@ public final class PromiseTests {
 
     private static void empty() {
         promise = "6 empty";
-        ThinnedPots x = filled(5, 1, 2, 3, 4);
+        ThinnedPots x = Paints.filled(5, 1, 2, 3, 4);
         due("10", x.empty(5), 10);
         drops("emptied", x, 5, 0, 0, 0, 0);
         due("rinsed", x.count(5), 10);
@@ -248,8 +233,8 @@ public final class PromiseTests {
 
     private static void dip() {
         promise = "7 dip";
-        ThinnedPots x = filled(0, 4, 4, 0, 4);
-        fillPot(x, 1, 0, 0, 9, 0);
+        ThinnedPots x = Paints.filled(0, 4, 4, 0, 4);
+        Paints.fillPot(x, 1, 0, 0, 9, 0);
         due("3", x.dip(0, 3), 3);
         brushDrops("brush", x, 1, 1, 0, 1);
         drops("pot", x, 0, 3, 3, 0, 3);
@@ -271,7 +256,7 @@ public final class PromiseTests {
 
     private static void paint() {
         promise = "8 paint";
-        ThinnedPots x = filled(0, 2, 3, 1, 1);
+        ThinnedPots x = Paints.filled(0, 2, 3, 1, 1);
         x.want(4, 30, 40, 10);
         x.dip(0, 7);
         due("distance", x.paint(4), 2 + 2 + 4);
@@ -300,7 +285,7 @@ public final class PromiseTests {
 
     private static void rinse() {
         promise = "9 rinse";
-        ThinnedPots x = filled(0, 9, 0, 0, 0);
+        ThinnedPots x = Paints.filled(0, 9, 0, 0, 0);
         due("clean", x.rinse(), 0);
         due("not counted", x.count(9), 0);
         x.dip(0, 5);
@@ -318,7 +303,7 @@ public final class PromiseTests {
 
     private static void want() {
         promise = "10 want";
-        ThinnedPots x = filled(0, 6, 0, 0, 6);
+        ThinnedPots x = Paints.filled(0, 6, 0, 0, 6);
         due("nothing painted", x.want(0, 0, 0, 0), 0);
         due("all", x.want(5, 100, 99, 98), 0);
         due("r", x.panel(5, 0), 100);
@@ -398,7 +383,7 @@ public final class PromiseTests {
 
     private static void potNumbers() {
         promise = "12 pot";
-        ThinnedPots x = filled(6, 1, 2, 3, 1);
+        ThinnedPots x = Paints.filled(6, 1, 2, 3, 1);
         drops("pot 6", x, 6, 1, 2, 3, 1);
         due("r", x.pot(6, 5), 14);
         due("y", x.pot(6, 6), 28);
@@ -411,7 +396,7 @@ public final class PromiseTests {
             due("empty", x.pot(5, what), NONE);
         }
         due("empty", x.pot(5, 8), 0);
-        fillPot(x, 5, 0, 0, 0, 1);
+        Paints.fillPot(x, 5, 0, 0, 0, 1);
         due("water", x.pot(5, 5), 0);
         due("pot -1", x.pot(-1, -1), NO_SUCH);
         due("pot 8", x.pot(8, 0), NO_SUCH);
@@ -423,7 +408,7 @@ public final class PromiseTests {
 
     private static void brushNumbers() {
         promise = "13 brush";
-        ThinnedPots x = filled(0, 1, 2, 3, 1);
+        ThinnedPots x = Paints.filled(0, 1, 2, 3, 1);
         for (int what = 5; what < 8; what++) {
             due("none", x.brush(what), NONE);
         }
@@ -440,7 +425,7 @@ public final class PromiseTests {
 
     private static void panelNumbers() {
         promise = "14 panel";
-        ThinnedPots x = filled(0, 1, 2, 3, 1);
+        ThinnedPots x = Paints.filled(0, 1, 2, 3, 1);
         x.want(3, 20, 30, 40);
         x.dip(0, 7);
         x.paint(3);
@@ -463,7 +448,7 @@ public final class PromiseTests {
 
     private static void counts() {
         promise = "15 count";
-        ThinnedPots x = filled(0, 9, 9, 0, 0);
+        ThinnedPots x = Paints.filled(0, 9, 9, 0, 0);
         x.thin(0);
         x.dip(0, 9);
         x.paint(0);
@@ -472,7 +457,7 @@ public final class PromiseTests {
         x.paint(1);
         x.rinse();
         x.empty(0);
-        fillPot(x, 2, 0, 0, 5, 0);
+        Paints.fillPot(x, 2, 0, 0, 5, 0);
         x.want(0, 16, 16, 0);
         Checks.type(x, "0+1");
         int[] numbers = {1, 15, 59, 5, 7, 47, 2, 1, 3, 1, 3, 6};
@@ -495,23 +480,23 @@ public final class PromiseTests {
         due("panel 6", x.nearest(6, 0), NO_SUCH);
         due("what -1", x.nearest(0, -1), BAD_VALUE);
         due("what 2", x.nearest(0, 2), BAD_VALUE);
-        fillPot(x, 3, 1, 0, 0, 0);
+        Paints.fillPot(x, 3, 1, 0, 0, 0);
         x.want(2, 0, 90, 10);
         due("the only one", x.nearest(2, 0), 3);
         due("its distance", x.nearest(2, 1), 200);
-        fillPot(x, 5, 0, 1, 0, 0);
-        fillPot(x, 7, 0, 2, 0, 0);
+        Paints.fillPot(x, 5, 0, 1, 0, 0);
+        Paints.fillPot(x, 7, 0, 2, 0, 0);
         due("lowest of two", x.nearest(2, 0), 5);
         due("its distance", x.nearest(2, 1), 20);
-        fillPot(x, 7, 0, 7, 1, 0);
-        fillPot(x, 0, 0, 0, 1, 0);
+        Paints.fillPot(x, 7, 0, 7, 1, 0);
+        Paints.fillPot(x, 0, 0, 0, 1, 0);
         due("nearer", x.nearest(2, 0), 7);
         due("its distance", x.nearest(2, 1), 0);
     }
 
     private static void bestThinning() {
         promise = "17 bestThinning";
-        ThinnedPots x = filled(1, 1, 0, 0, 0);
+        ThinnedPots x = Paints.filled(1, 1, 0, 0, 0);
         int[] wanted = {100, 34, 10, 4, 0};
         int[] distances = {0, 1, 1, 1, 1};
         for (int times = 0; times < 5; times++) {
@@ -519,14 +504,14 @@ public final class PromiseTests {
             due("how often", x.bestThinning(0, 1, 0), times);
             due("distance", x.bestThinning(0, 1, 1), distances[times]);
         }
-        fillPot(x, 2, 4, 5, 0, 0);
+        Paints.fillPot(x, 2, 4, 5, 0, 0);
         x.want(1, 0, 0, 0);
         due("27 and 81", x.bestThinning(1, 2, 0), 2);
         due("10 drops of 81", x.bestThinning(1, 2, 1), 4 + 6);
-        fillPot(x, 3, 28, 0, 0, 0);
+        Paints.fillPot(x, 3, 28, 0, 0, 0);
         due("not once", x.bestThinning(1, 3, 0), 0);
         due("as it is", x.bestThinning(1, 3, 1), 100);
-        fillPot(x, 4, 0, 0, 0, 3);
+        Paints.fillPot(x, 4, 0, 0, 0, 3);
         due("least number of several", x.bestThinning(1, 4, 0), 0);
         due("nothing is thinned", x.pot(1, 4), 1);
         due("panel -1", x.bestThinning(-1, 0, 2), NO_SUCH);
@@ -549,13 +534,13 @@ public final class PromiseTests {
         promise = "18 bestMixture";
         ThinnedPots x = new ThinnedPots();
         due("no paint", x.bestMixture(0, 0), NONE);
-        fillPot(x, 2, 3, 0, 0, 0);
+        Paints.fillPot(x, 2, 3, 0, 0, 0);
         due("one pot", x.bestMixture(0, 4), NONE);
         due("panel -1", x.bestMixture(-1, 5), NO_SUCH);
         due("panel 6", x.bestMixture(6, 0), NO_SUCH);
         due("what -1", x.bestMixture(0, -1), BAD_VALUE);
         due("what 5", x.bestMixture(0, 5), BAD_VALUE);
-        fillPot(x, 4, 0, 1, 0, 0);
+        Paints.fillPot(x, 4, 0, 1, 0, 0);
         x.want(0, 50, 50, 0);
         mixture(x, 0, 2, 4, 1, 1, 0);
         x.want(0, 90, 10, 0);
@@ -566,22 +551,22 @@ public final class PromiseTests {
         mixture(x, 0, 2, 4, 7, 6, 0);
         x.want(0, 9, 91, 0);
         mixture(x, 0, 2, 4, 1, 9, 2);
-        fillPot(x, 1, 0, 0, 7, 7);
-        fillPot(x, 6, 2, 2, 0, 0);
+        Paints.fillPot(x, 1, 0, 0, 7, 7);
+        Paints.fillPot(x, 6, 2, 2, 0, 0);
         x.want(0, 50, 50, 0);
         mixture(x, 0, 2, 4, 1, 1, 0);
         x.want(0, 25, 25, 25);
         mixture(x, 0, 1, 6, 1, 1, 0);
-        fillPot(x, 0, 0, 5, 0, 0);
+        Paints.fillPot(x, 0, 0, 5, 0, 0);
         x.want(0, 0, 50, 25);
         mixture(x, 0, 0, 1, 1, 1, 0);
     }
 
     private static ThinnedPots ringed(int... pots) {
         ThinnedPots x = new ThinnedPots();
-        fillPot(x, 1, 1, 0, 0, 0);
-        fillPot(x, 3, 0, 1, 0, 0);
-        fillPot(x, 5, 0, 0, 1, 0);
+        Paints.fillPot(x, 1, 1, 0, 0, 0);
+        Paints.fillPot(x, 3, 0, 1, 0, 0);
+        Paints.fillPot(x, 5, 0, 0, 1, 0);
         for (int panel = 0; panel < 6; panel++) {
             int pot = pots[panel];
             x.want(panel, pot == 1 ? 100 : 0, pot == 3 ? 100 : 0, pot == 5 ? 100 : 0);
@@ -765,19 +750,19 @@ public final class PromiseTests {
     private static void undoOfEachChange() {
         promise = "24 undo of each change";
         for (int change = 0; change < 11; change++) {
-            ThinnedPots x = filled(0, 9, 9, 0, 0);
+            ThinnedPots x = Paints.filled(0, 9, 9, 0, 0);
             x.dip(0, 8);
             x.paint(1);
             x.save(1);
-            long[] before = answers(x);
+            String before = Paints.answers(x);
             int kept = x.count(11);
             doChange(x, change);
             due("recorded " + change, x.count(11), kept + 1);
             if (change < 10) {
-                CHECKS.holds(promise + ": differs " + change, !java.util.Arrays.equals(before, answers(x)));
+                CHECKS.holds(promise + ": differs " + change, !before.equals(Paints.answers(x)));
             }
             due("undone " + change, x.undo(), kept);
-            CHECKS.holds(promise + ": as before " + change, java.util.Arrays.equals(before, answers(x)));
+            CHECKS.holds(promise + ": as before " + change, before.equals(Paints.answers(x)));
         }
     }
 
@@ -797,33 +782,10 @@ public final class PromiseTests {
         }
     }
 
-    /** All that can be read of an object, but for the pad and the history. */
-    private static long[] answers(ThinnedPots x) {
-        long[] all = new long[8 * 9 + 8 + 6 * 9 + 10];
-        int next = 0;
-        for (int pot = 0; pot < 8; pot++) {
-            for (int what = 0; what < 9; what++) {
-                all[next++] = x.pot(pot, what);
-            }
-        }
-        for (int what = 0; what < 8; what++) {
-            all[next++] = x.brush(what);
-        }
-        for (int panel = 0; panel < 6; panel++) {
-            for (int what = 0; what < 9; what++) {
-                all[next++] = x.panel(panel, what);
-            }
-        }
-        for (int what = 0; what < 10; what++) {
-            all[next++] = x.count(what);
-        }
-        return all;
-    }
-
     private static void save() {
         promise = "25 save";
-        ThinnedPots x = filled(0, 1, 2, 3, 4);
-        fillPot(x, 7, 5, 0, 0, 0);
+        ThinnedPots x = Paints.filled(0, 1, 2, 3, 4);
+        Paints.fillPot(x, 7, 5, 0, 0, 0);
         x.dip(7, 1);
         due("slot 0", x.save(0), 14);
         x.empty(7);
@@ -844,7 +806,7 @@ public final class PromiseTests {
 
     private static void restore() {
         promise = "26 restore";
-        ThinnedPots x = filled(0, 9, 9, 0, 0);
+        ThinnedPots x = Paints.filled(0, 9, 9, 0, 0);
         due("nothing saved", x.restore(0), NOT_POSSIBLE);
         x.set(1, 40);
         x.thin(0);
@@ -853,7 +815,7 @@ public final class PromiseTests {
         x.want(2, 20, 20, 0);
         Checks.type(x, "r;p0");
         x.save(0);
-        long[] saved = answers(x);
+        String saved = Paints.answers(x);
         x.rinse();
         x.set(1, 2);
         x.want(2, 90, 90, 90);
@@ -861,7 +823,7 @@ public final class PromiseTests {
         x.run();
         Checks.type(x, "r;r");
         due("drops", x.restore(0), 45);
-        CHECKS.holds(promise + ": as saved", java.util.Arrays.equals(saved, answers(x)));
+        CHECKS.holds(promise + ": as saved", saved.equals(Paints.answers(x)));
         due("the pad stays", x.count(10), 3);
         due("a change", x.count(11), 6);
         x.empty(0);
@@ -878,11 +840,11 @@ public final class PromiseTests {
 
     private static void errorsChangeNothing() {
         promise = "conventions";
-        ThinnedPots x = filled(0, 40, 40, 0, 0);
-        fillPot(x, 1, 0, 0, 9, 0);
+        ThinnedPots x = Paints.filled(0, 40, 40, 0, 0);
+        Paints.fillPot(x, 1, 0, 0, 9, 0);
         x.dip(1, 2);
         x.save(0);
-        long[] before = answers(x);
+        String before = Paints.answers(x);
         int kept = x.count(11);
         due("set", x.set(0, 0), BAD_VALUE);
         due("fill", x.fill(0, 0, 2), TOO_MANY);
@@ -894,7 +856,7 @@ public final class PromiseTests {
         due("want", x.want(0, 1, 2, 101), BAD_VALUE);
         due("run", x.run(), BAD_TEXT);
         due("restore", x.restore(1), NOT_POSSIBLE);
-        CHECKS.holds(promise + ": as before", java.util.Arrays.equals(before, answers(x)));
+        CHECKS.holds(promise + ": as before", before.equals(Paints.answers(x)));
         due("history", x.count(11), kept);
         x.undo();
         due("the latest change is undone", x.brush(4), 0);

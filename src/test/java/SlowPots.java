@@ -516,18 +516,22 @@ final class SlowPots {
         return before;
     }
 
-    /** The longest begin of the pad that a good text can begin with ends at the fault. */
     int fault() {
-        if (TEXT.matcher(pad).matches()) {
+        return faultOf(pad);
+    }
+
+    /** The longest begin of a text that a good text can begin with ends at the fault. */
+    static int faultOf(String text) {
+        if (TEXT.matcher(text).matches()) {
             return NONE;
         }
-        for (int length = 1; length <= pad.length(); length++) {
-            Matcher begin = TEXT.matcher(pad.substring(0, length));
+        for (int length = 1; length <= text.length(); length++) {
+            Matcher begin = TEXT.matcher(text.substring(0, length));
             if (!begin.matches() && !begin.hitEnd()) {
                 return length - 1;
             }
         }
-        return pad.length();
+        return text.length();
     }
 
     int undo() {
